@@ -355,6 +355,8 @@ public final class PromisesTest {
         is("may(1, 45)", x.may(1, 45), 0);
         is("may(1, 38)", x.may(1, 38), 0);
         is("permit(1, 38)", x.permit(1, 38), 0);
+        x.work(a(2, SMALL, 1, 1), b(3, 0), 0);
+        for (int d = 37; d < 46; d++) is("may(2, " + d + ") beside two", x.may(2, d), d == 37 || d == 45 ? 0 : 4);
         for (int i = 0; i < 7; i++) is("lanes(0, " + (38 + i) + ")", x.lanes(0, 38 + i), 2);
         is("lanes(0, 45)", x.lanes(0, 45), 0);
     }
@@ -374,6 +376,11 @@ public final class PromisesTest {
         x.work(a(2, SMALL, 1, 5), b(3, 0), 0);
         is("may(2, 36)", x.may(2, 36), 7);
         why(x, 40, 0);
+        is("permit(1, 50), on other days", x.permit(1, 50), 0);
+        is("permit(2, 45), between both", x.permit(2, 45), 0);
+        is("may(1, 45)", x.may(1, 45), 7);
+        why(x, 45, 0);
+        is("may(1, 35)", x.may(1, 35), 0);
     }
 
     private static void promise7depth() {
@@ -401,6 +408,12 @@ public final class PromisesTest {
         is("may of the same house", x.may(4, 10), 0);
         x.work(a(1, SMALL, 1, 4), b(5, 0), 0);
         is("may on another piece", x.may(5, 10), 0);
+        x.work(a(2, SMALL, 1, 1), b(5, 399), 1);
+        x.more(6, 2);
+        is("may(6, 11), wanted on another day", x.may(6, 11), 5);
+        why(x, 11, 1);
+        is("may(6, 10)", x.may(6, 10), 5);
+        why(x, 10, 2);
     }
 
     private static void promise7rest() {
