@@ -714,10 +714,11 @@ public final class RoadWorks {
 
     /** Other days for works that are PERMITTED: the moves that others force, and those that make delays less. */
     private static final class Shifts {
+        private static final int NOBODY = -1;
         private final Town town;
         private final Rules rules;
-        /** The work that broke a rule last: it is asked first, as it mostly does so again. */
-        private int breaker;
+        /** The work that broke a rule beside the one looked at last: it mostly does so on the next day, too. */
+        private int breaker = NOBODY;
 
         Shifts(Town town, Rules rules) {
             this.town = town;
@@ -765,19 +766,24 @@ public final class RoadWorks {
 
         /** Whether a PERMITTED work breaks no rule from a day on, and no other PERMITTED one with it there. */
         private boolean fits(Work it, int day) {
-            rules.lookAt(it, WORKS);
-            if (rules.broken(it, day, 1) != 0) return false;
             int begin = it.begin;
             it.placeAt(day);
+            // The breaker is asked ahead: while it breaks its rule, the work's own days needn't be looked at.
             boolean fitting = !breaksBeside(breaker, it);
+            if (fitting) breaker = NOBODY;
+            fitting = fitting && keepsRules(it, day);
             for (int i = 0; i < town.workCount && fitting; i++) {
-                if (breaksBeside(i, it)) {
-                    breaker = i;
-                    fitting = false;
-                }
+                if (!breaksBeside(i, it)) continue;
+                breaker = i;
+                fitting = false;
             }
             it.placeAt(begin);
             return fitting;
+        }
+
+        private boolean keepsRules(Work it, int day) {
+            rules.lookAt(it, WORKS);
+            return rules.broken(it, day, 1) == 0;
         }
 
         private boolean breaksBeside(int number, Work it) {
