@@ -1,7 +1,9 @@
 import java.io.IOException;
 import java.nio.file.Files;
 import java.nio.file.Path;
+import java.util.HashMap;
 import java.util.HashSet;
+import java.util.Map;
 import java.util.Set;
 import java.util.regex.Matcher;
 import java.util.regex.Pattern;
@@ -43,6 +45,7 @@ public final class LanguageTest {
     private static void methods(String code) {
         Set<String> open = new HashSet<>();
         Set<String> others = new HashSet<>();
+        Map<String, String> bodies = new HashMap<>();
         Matcher methods = METHOD.matcher(code);
         while (methods.find()) {
             boolean face = methods.group(1).length() == 4 && "public".equals(methods.group(2));
@@ -50,8 +53,25 @@ public final class LanguageTest {
             CHECK.holds(methods.group(3) + " takes seven at most", methods.group(4).split(",").length <= 7);
             String body = code.substring(methods.end(), code.indexOf("\n" + methods.group(1) + "}\n", methods.end()));
             CHECK.holds(methods.group(3) + " is short", body.split("\n").length <= 40);
+            bodies.merge(methods.group(3), body, (one, other) -> one + other);
         }
         CHECK.holds("22 public methods, not " + open.size(), open.size() == 22);
         for (String name : others) CHECK.holds(name + " is no public name", !open.contains(name));
+        for (String name : open) {
+            int depth = depth(name, bodies, 1);
+            CHECK.holds(name + " goes eight calls deep at most, not " + depth, depth <= 8);
+        }
+    }
+
+    /** How deep a method's calls go, of own ones and of Math's; one that calls itself goes deeper than all others. */
+    private static int depth(String name, Map<String, String> bodies, int above) {
+        if (above > 20) return above;
+        String body = bodies.get(name);
+        int deepest = body.contains("Math.") ? above + 1 : above;
+        for (String other : bodies.keySet()) {
+            if (!Pattern.compile("\\b" + other + "\\(").matcher(body).find()) continue;
+            deepest = Math.max(deepest, depth(other, bodies, above + 1));
+        }
+        return deepest;
     }
 }

@@ -3,7 +3,7 @@ import java.util.Random;
 /** Random runs of calls (from told seeds, so always the same ones) on the program and on the slow Model. */
 public final class ModelTest {
     private static final Check CHECK = new Check("ModelTest");
-    private static final int RUNS = 400;
+    private static final int RUNS = 400, KNOTS = 1000;
 
     private final Random random;
     private final int run;
@@ -21,6 +21,7 @@ public final class ModelTest {
 
     public static void main(String[] args) {
         for (int run = 0; run < RUNS && CHECK.wrong() == 0; run++) new ModelTest(run).play();
+        for (int run = 0; run < KNOTS && CHECK.wrong() == 0; run++) new ModelTest(run).knot();
         CHECK.end();
     }
 
@@ -36,6 +37,38 @@ public final class ModelTest {
         int pairs = random.nextInt(run % 11 == 0 ? 10 : 5);
         for (int i = 0; i < pairs; i++, calls++) pair();
         while (calls++ < 512 && CHECK.wrong() == 0) call();
+        compareAll();
+    }
+
+    /**
+     * Few streets, full of works, in a net that grows only then: works that are PERMITTED already break rules, and
+     * each move and each bettering of one is a matter of others.
+     */
+    private void knot() {
+        crossings = 3;
+        longest = 6;
+        wild = 1000000;
+        spread = 12;
+        CHECK.part("knot " + run);
+        for (int i = 0; i < 4; i++) piece();
+        if (run % 4 == 0) twins();
+        for (int i = 0; i < 10; i++) {
+            work();
+            if (random.nextInt(3) == 0) more();
+            permitFirst(m.jobs.size() - 1);
+        }
+        for (int i = 0; i < 3; i++) pair();
+        for (int i = 0; i < 20 && CHECK.wrong() == 0; i++) {
+            switch (random.nextInt(8)) {
+                case 0 -> due("withdraw(" + i % 10 + ")", x.withdraw(i % 10), m.withdraw(i % 10));
+                case 1 -> due("day(1)", x.day(1), m.day(1));
+                case 2 -> over();
+                case 3 -> crash();
+                case 4 -> piece();
+                case 5 -> permitFirst(aWork());
+                default -> due("better()", x.better(), m.better());
+            }
+        }
         compareAll();
     }
 
